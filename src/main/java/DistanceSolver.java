@@ -155,7 +155,7 @@ public final class DistanceSolver {
             throw new IllegalArgumentException("place is below 0");
         }
         long least = net.leastSum(x, y, NONE);
-        if (least == FAR || !net.findRow(x, y, least) || place >= net.rowLength) {
+        if (least == FAR || !net.traceRow(x, least) || place >= net.rowLength) {
             return NONE;
         }
         return net.row[place];
@@ -427,9 +427,10 @@ public final class DistanceSolver {
             }
         }
 
-        /** A difference is refused by the row that closes a round below 0 with it. */
+        /** A difference is refused by the row that closes a round below 0 with it: that is kept as found. */
         boolean refuses(int x, int y, int c) {
-            return findRow(y, x, -1L - c);
+            measure(x, NONE);
+            return traceRow(y, -1L - c);
         }
 
         long leastSum(int x, int y, int skipped) {
@@ -437,9 +438,12 @@ public final class DistanceSolver {
             return least[rounds][x];
         }
 
-        /** Finds the row from x to y with a SUM of at most the limit that is shortest, then first by its numbers. */
-        boolean findRow(int x, int y, long limit) {
-            measure(y, NONE);
+        /**
+         * Finds the row from x to the measured variable with a SUM of at most the limit that is shortest, then
+         * first by its numbers. No row that is shorter is good enough, so each that is goes on with just the
+         * differences that are left.
+         */
+        boolean traceRow(int x, long limit) {
             rowLength = 0;
             int fewest = 0;
             while (fewest <= rounds && least[fewest][x] > limit) {
@@ -1167,19 +1171,16 @@ public final class DistanceSolver {
             begun = false;
             sum = 0;
             for (int items = 0; items < PROOF_ROOM && text.at(place) != ';'; items++) {
-                if (!passItem()) {
+                int k = figureOf(text.at(place));
+                if (k == NONE ? !passConstraint() : !passGiven(k)) {
                     return false;
                 }
             }
             return begun && end == begin && sum < 0 && pass(';');
         }
 
-        private boolean passItem() {
-            int k = figureOf(text.at(place));
-            if (k == NONE) {
-                return passConstraint();
-            }
-            if (k >= formula.atomCount || formula.given[k] == OPEN) {
+        private boolean passGiven(int k) {
+            if (k < 0 || k >= formula.atomCount || formula.given[k] == OPEN) {
                 return false;
             }
             if (!leadOn(formula.fromOf(k), formula.toOf(k), formula.mostOf(k))) {

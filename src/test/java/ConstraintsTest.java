@@ -209,6 +209,11 @@ public final class ConstraintsTest {
         Due.is("with that", s.value(2), -2);
         Due.is("a bit", s.value(3), 7);
         Due.is("what sinks it", s.value(4), 7);
+        s.push();
+        s.add(3, 1, -100);
+        Due.is("sunk", s.value(3), -105);
+        s.pop(1);
+        Due.is("risen again", s.value(3), 7);
         DistanceSolver deep = new DistanceSolver();
         for (int x = 15; x > 0; x--) {
             deep.add(x - 1, x, -1000000);
