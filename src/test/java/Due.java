@@ -8,15 +8,21 @@ final class Due {
 
     private static int wrong = 0;
     private static int looked = 0;
+    private static String about = "";
 
     private Due() {
+    }
+
+    /** What the answers that follow are about; "" for nothing that a test would have to name. */
+    static void about(String words) {
+        about = words.isEmpty() ? "" : words + " -- ";
     }
 
     static void is(String what, long got, long want) {
         looked++;
         if (got != want) {
             wrong++;
-            System.out.println(what + " answered " + got + ", due is " + want);
+            System.out.println(about + what + " answered " + got + ", due is " + want);
         }
     }
 
@@ -24,7 +30,7 @@ final class Due {
         looked++;
         if (!want.equals(got)) {
             wrong++;
-            System.out.println(what + " is " + got + ", due is " + want);
+            System.out.println(about + what + " is " + got + ", due is " + want);
         }
     }
 

@@ -6,7 +6,6 @@ public final class ProofsTest {
         noProof();
         writtenProofs();
         coresOfProofs();
-        sixThousandBytes();
         rightProofs();
         wrongProofs();
         wrongRounds();
@@ -83,56 +82,6 @@ public final class ProofsTest {
         }
         t.add(1, 3, 0);
         dueProof(t, ROUND, "0(.,1(.,2(!2[59];,.)))");
-    }
-
-    /**
-     * F is (p0|..|p9) & p9 & (~p9 | H) of free ATOMS p0 .. p8: it is not false before ATOM 9 is given, so the
-     * tree has 1023 trees with ( and 1024 leaves, 5116 bytes if all of these are a point. p9 can't be by the
-     * constraints; where H is true, the leaf is not a point but that round.
-     */
-    private static String manyLeaves(String h) {
-        return "(a>0|b>0|c>0|d>0|e>0|f>0|g>0|h>0|i>0|j>0)&j>0&(j<1|" + h + ")";
-    }
-
-    private static void sixThousandBytes() {
-        // H has 68 rows
-        String h68 = "a<1&b<1&(c<1|d<1&e<1&f<1&g<1)";
-        DistanceSolver s = new DistanceSolver();
-        for (int k = 0; k < 9; k++) {
-            s.add(15, 15, k);
-        }
-        s.push();
-        s.add(10, 11, 0);
-        s.add(11, 12, 0);
-        s.add(12, 0, 0);
-        Due.is("read", Due.read(s, manyLeaves(h68)), 10);
-        Due.is("68 rounds !9[9][10][11];", s.prove(), 5116 + 13 * 68);
-        Due.is("that is 6000", s.told(5), 6000);
-        Due.is("its first byte", s.written(0), '0');
-        Due.is("its last byte", s.written(5999), ')');
-        Due.index("behind it", () -> s.written(6000));
-        Due.is("it is right", s.check(false), 0);
-        s.pop(1);
-        s.add(15, 15, 9);
-        s.add(10, 11, 0);
-        s.add(11, 12, 0);
-        s.add(12, 0, 0);
-        Due.is("6068 bytes", s.prove(), DistanceSolver.NONE);
-        Due.is("nothing is written", s.told(5), 0);
-        Due.is("nothing is checked", s.check(false), -1);
-        Due.is("the constraints are as before", s.told(0), 13);
-
-        // H has 177 rows
-        String h177 = "a<1&(b<1|c<1&(d<1|e<1|f<1&g<1&h<1&i<1))";
-        DistanceSolver t = new DistanceSolver();
-        t.add(10, 0, 0);
-        Due.is("read", Due.read(t, manyLeaves(h177)), 10);
-        Due.is("6001 bytes", t.prove(), DistanceSolver.NONE);
-        Due.is("there is no way, though", t.ways(), 0);
-        // one row less, as i<1 is no choice any more
-        Due.is("read", Due.read(t, manyLeaves(h177.replace("&i<1", "&z=1"))), 10);
-        Due.is("5996 bytes", t.prove(), 5996);
-        Due.is("5996 bytes are right", t.check(false), 0);
     }
 
     private static DistanceSolver withRound() {
