@@ -484,12 +484,13 @@ final class FormulaEdges {
             Due.is("no formula before", s.told(6), 0);
             Due.is("no ways", s.ways(), NONE);
             Due.is("a first formula", Due.read(s, "a-b<=4|c-d<=5"), 2);
+            Due.is("nothing of the fault is in it", s.way(0), 1);
             Due.is("a fault in " + text, Due.read(s, text) < 0 ? 1 : 0, 1);
             Due.is("it is there still", s.told(6), 1);
             Due.is("with its atoms", s.told(3), 2);
             Due.is("as they were", s.atom(1, 2), 5);
             Due.is("and its ways", s.ways(), 3);
-            Due.is("nothing of the fault is in what comes", Due.read(s, "~".repeat(17) + "(a-b<=4->c-d<=5)"), 2);
+            Due.is("nothing of the fault is in the next one", Due.read(s, "~".repeat(17) + "(a-b<=4->c-d<=5)"), 2);
             Due.is("it has the contrary's ways", s.ways(), 1);
             Due.is("another one", Due.read(s, "z=0"), 0);
             Due.is("it goes", s.ways(), 1);
