@@ -1,11 +1,17 @@
+import java.io.IOException;
 import java.lang.management.ManagementFactory;
 import java.lang.reflect.Constructor;
 import java.lang.reflect.Field;
 import java.lang.reflect.Method;
 import java.lang.reflect.Modifier;
+import java.nio.file.Files;
+import java.nio.file.Path;
 import java.util.Arrays;
+import java.util.List;
 import java.util.Map;
+import java.util.Set;
 import java.util.TreeMap;
+import java.util.TreeSet;
 
 /** The public face, with no member beside it that others could see, and the room that calls need. */
 public final class FaceTest {
@@ -13,11 +19,13 @@ public final class FaceTest {
     private static final String ILLEGAL = "IllegalArgumentException ";
     private static final String UNSUPPORTED = "UnsupportedOperationException ";
 
-    public static void main(String[] args) {
+    public static void main(String[] args) throws IOException {
         constants();
         constructors();
         methods();
+        faceOfTheDocument();
         classesInside();
+        language();
         room();
         Due.end();
     }
@@ -78,6 +86,73 @@ public final class FaceTest {
             }
         }
         Due.is("methods", got.toString(), due.toString());
+    }
+
+    /** The lines of 'The public face', as they stand in the document, against the class. */
+    private static void faceOfTheDocument() throws IOException {
+        Path file = Path.of("../shared/DOC.md");
+        if (!Files.exists(file)) {
+            System.out.println(file + " is not here: the face was not looked up");
+            return;
+        }
+        Set<String> due = new TreeSet<>();
+        String face = Files.readString(file).replaceFirst("(?s).*?```java\n", "").replaceFirst("(?s)```.*", "");
+        for (String line : face.split("\n")) {
+            if (line.startsWith("    public ")) {
+                due.add(line.trim().replaceAll("(int|long|boolean) [a-z]+(?=[,)])", "$1").replace(", ", ",")
+                        .replaceAll(" = .*|;", ""));
+            }
+        }
+        Set<String> got = new TreeSet<>();
+        for (Constructor<?> c : DistanceSolver.class.getConstructors()) {
+            got.add(c.toString());
+        }
+        for (Field f : DistanceSolver.class.getFields()) {
+            got.add(f.toString().replace("DistanceSolver.", ""));
+        }
+        for (Method m : DistanceSolver.class.getMethods()) {
+            if (m.getDeclaringClass() == DistanceSolver.class) {
+                got.add(m.toString().replace("DistanceSolver.", "").replace("java.lang.", ""));
+            }
+        }
+        Due.is("the document's public face", got.toString(), due.toString());
+    }
+
+    /** Rules of LANGUAGE.md that are easily seen: 1 (names), 2, 4 and 6 (words), 5 (static state), 11 (parameters). */
+    private static void language() throws IOException {
+        names();
+        words();
+    }
+
+    private static void names() {
+        Set<String> face = new TreeSet<>();
+        for (Method m : DistanceSolver.class.getMethods()) {
+            face.add(m.getName());
+        }
+        for (Class<?> c : DistanceSolver.class.getDeclaredClasses()) {
+            for (Method m : c.getDeclaredMethods()) {
+                Due.is(c.getName() + " has a name of the face", face.contains(m.getName()) ? m.getName() : "", "");
+                Due.is("parameters of " + m, m.getParameterCount() <= 7 ? 1 : 0, 1);
+            }
+            for (Field f : c.getDeclaredFields()) {
+                boolean changing = Modifier.isStatic(f.getModifiers()) && !Modifier.isFinal(f.getModifiers());
+                Due.is("static state " + f, changing ? 1 : 0, 0);
+            }
+        }
+        for (Method m : DistanceSolver.class.getDeclaredMethods()) {
+            boolean hidden = Modifier.isPrivate(m.getModifiers()) && face.contains(m.getName());
+            Due.is("a private method with a name of the face", hidden ? m.getName() : "", "");
+        }
+    }
+
+    private static void words() throws IOException {
+        String source = Files.readString(Path.of("src/main/java/DistanceSolver.java"))
+                .replaceAll("(?s)/\\*.*?\\*/|//[^\n]*", "");
+        for (String word : List.of("try", "catch", "finally", "synchronized", "assert", "package", "static \\{", "::",
+                "->")) {
+            Due.is("the word " + word, source.matches("(?s).*(?<!\\w)" + word + "(?!\\w).*") ? 1 : 0, 0);
+        }
+        Due.is("imports", source.replaceAll("(?s)public final class.*", "").trim(), "import java.util.Arrays;");
     }
 
     private static void classesInside() {
